@@ -1,20 +1,28 @@
-import java.util.List;
-
 /** Promises 8 to 14: read, held, same, contents, duplicates, sum, plain. */
 public final class AskingCallsTest {
     public static void main(String[] args) {
         readTellsWords();
-        readRefuses();
+        readTellsWordsThatEqualRefusals();
+        readOfAReleasedPageIsZero();
+        readRefusesABadPage();
+        readRefusesABadWord();
         heldTells();
+        heldRefuses();
         sameCompares();
         sameRefuses();
         countsOfContents();
         countsSeeEveryWord();
         countsLeaveReleasedOut();
+        contentsOfNoneHeld();
+        contentsOfAllHeld();
+        duplicatesOfNoneHeld();
+        duplicatesOfAllHeld();
         sums();
         sumsWrap();
+        sumRefuses();
         plainCounts();
-        askingChangesNothing();
+        plainOfNoneHeld();
+        plainOfAllHeld();
         Due.end();
     }
 
@@ -26,22 +34,38 @@ public final class AskingCallsTest {
         for (int p = 0; p < 24; p++) {
             Due.dueWords("all different", x, p, p * 4 + 1, p * 4 + 2, p * 4 + 3, p * 4 + 4);
         }
-        Due.writeWords(x, 12, PageMerger.BAD_PAGE, PageMerger.BAD_WORD, PageMerger.RELEASED, Integer.MIN_VALUE);
-        Due.dueWords("words like refusals", x, 12, -1, -2, -3, Integer.MIN_VALUE);
-        x.release(12);
-        Due.dueWords("released", x, 12, 0, 0, 0, 0);
-        Due.due("read of a released page: held", x.held(12), false);
     }
 
-    private static void readRefuses() {
+    private static void readTellsWordsThatEqualRefusals() {
+        for (int p = 0; p < 24; p++) {
+            PageMerger x = new PageMerger(4);
+            Due.writeWords(x, p, PageMerger.BAD_PAGE, PageMerger.BAD_WORD, PageMerger.RELEASED, Integer.MIN_VALUE);
+            Due.dueWords("words like refusals", x, p, -1, -2, -3, Integer.MIN_VALUE);
+        }
+    }
+
+    private static void readOfAReleasedPageIsZero() {
+        for (int p = 0; p < 24; p++) {
+            PageMerger x = new PageMerger(4);
+            Due.writeWords(x, p, 1, 2, 3, 4);
+            x.release(p);
+            Due.dueWords("released", x, p, 0, 0, 0, 0);
+        }
+    }
+
+    private static void readRefusesABadPage() {
         PageMerger x = Due.mixed();
         for (int bad : Due.BAD_PAGES) {
             for (int w = 0; w < 4; w++) {
                 Due.due("read(" + bad + ", " + w + ")", x.read(bad, w), PageMerger.BAD_PAGE);
             }
         }
+    }
+
+    private static void readRefusesABadWord() {
+        PageMerger x = Due.mixed();
         for (int bad : Due.BAD_WORDS) {
-            for (int p : new int[] {0, 3, 10, 20, 23}) {
+            for (int p = 0; p < 24; p++) {
                 Due.due("read(" + p + ", " + bad + ")", x.read(p, bad), PageMerger.BAD_WORD);
             }
         }
@@ -52,13 +76,23 @@ public final class AskingCallsTest {
         for (int p = 0; p < 24; p++) {
             Due.due("held(" + p + ")", x.held(p), p != 3 && p != 20);
         }
-        for (int bad : Due.BAD_PAGES) {
-            Due.due("held(" + bad + ")", x.held(bad), false);
-        }
         x.write(3, 0, 0);
         Due.due("held(3) after a write of 0", x.held(3), true);
         x.fill(20, 0);
         Due.due("held(20) after a fill with 0", x.held(20), true);
+    }
+
+    private static void heldRefuses() {
+        PageMerger x = new PageMerger(4);
+        for (int bad : Due.BAD_PAGES) {
+            Due.due("held(" + bad + ")", x.held(bad), false);
+        }
+        // A host that keeps a place for a refused page would hold it now.
+        x.write(24, 0, 1);
+        x.fill(24, 1);
+        x.copy(0, -1);
+        Due.due("held(24) after a refused fill", x.held(24), false);
+        Due.due("held(-1) after a refused copy", x.held(-1), false);
     }
 
     private static void sameCompares() {
@@ -151,12 +185,111 @@ public final class AskingCallsTest {
         }
         x.release(23);
         dueCounts("all released", x, 0, 0);
-        Due.due("all released: plain()", x.plain(), 0);
         x.write(23, 3, 0);
         dueCounts("one held again, beside released zeros", x, 1, 0);
         Due.due("one held again: plain()", x.plain(), 1);
         x.fill(0, 0);
         dueCounts("two held again", x, 1, 1);
+    }
+
+    /** All pages released: those with words of their own, and those of zeros. */
+    private static PageMerger noneHeld() {
+        PageMerger x = new PageMerger(4);
+        for (int p = 0; p < 24; p++) {
+            if (p % 3 != 0) {
+                x.fill(p, p);
+            }
+            x.release(p);
+        }
+        return x;
+    }
+
+    /** All pages held and different, none of them plain, though each has the same four words in another order. */
+    private static PageMerger allOrders() {
+        PageMerger x = new PageMerger(4);
+        int p = 0;
+        for (int a = 0; a < 4; a++) {
+            for (int b = 0; b < 4; b++) {
+                for (int c = 0; c < 4; c++) {
+                    if (a != b && a != c && b != c) {
+                        Due.writeWords(x, p, a, b, c, 6 - a - b - c);
+                        p++;
+                    }
+                }
+            }
+        }
+        return x;
+    }
+
+    private static PageMerger allFilledWith(int value) {
+        PageMerger x = new PageMerger(4);
+        for (int p = 0; p < 24; p++) {
+            x.fill(p, value);
+        }
+        return x;
+    }
+
+    private static void contentsOfNoneHeld() {
+        PageMerger x = noneHeld();
+        Due.due("none held: contents()", x.contents(), 0);
+        x.fill(12, 0);
+        Due.due("one held: contents()", x.contents(), 1);
+    }
+
+    private static void contentsOfAllHeld() {
+        Due.due("a new object: contents()", new PageMerger(4).contents(), 1);
+        Due.due("all filled with 7: contents()", allFilledWith(7).contents(), 1);
+        Due.due("all orders of four words: contents()", allOrders().contents(), 24);
+    }
+
+    private static void duplicatesOfNoneHeld() {
+        PageMerger x = noneHeld();
+        Due.due("none held: duplicates()", x.duplicates(), 0);
+        x.fill(12, 0);
+        Due.due("one held: duplicates()", x.duplicates(), 0);
+        x.fill(23, 0);
+        Due.due("two held, alike: duplicates()", x.duplicates(), 1);
+    }
+
+    private static void duplicatesOfAllHeld() {
+        Due.due("a new object: duplicates()", new PageMerger(4).duplicates(), 23);
+        Due.due("all filled with 7: duplicates()", allFilledWith(7).duplicates(), 23);
+        Due.due("all orders of four words: duplicates()", allOrders().duplicates(), 0);
+        for (int a = 0; a < 24; a++) {
+            for (int b = 0; b < 24; b++) {
+                PageMerger x = allOrders();
+                x.copy(a, b);
+                Due.due("all different but " + a + " and " + b + ": duplicates()", x.duplicates(), a == b ? 0 : 1);
+            }
+        }
+    }
+
+    private static void plainOfNoneHeld() {
+        PageMerger x = noneHeld();
+        Due.due("none held: plain()", x.plain(), 0);
+        x.fill(12, 0);
+        Due.due("one held: plain()", x.plain(), 1);
+    }
+
+    private static void plainOfAllHeld() {
+        Due.due("a new object: plain()", new PageMerger(4).plain(), 24);
+        Due.due("all filled with 7: plain()", allFilledWith(7).plain(), 24);
+        Due.due("all orders of four words: plain()", allOrders().plain(), 0);
+        PageMerger x = new PageMerger(4);
+        for (int p = 0; p < 24; p++) {
+            x.fill(p, -p);
+        }
+        Due.due("each page plain in its own value: plain()", x.plain(), 24);
+    }
+
+    private static void sumRefuses() {
+        PageMerger x = new PageMerger(4);
+        for (int p = 0; p < 24; p++) {
+            x.fill(p, p + 1);
+        }
+        for (int bad : Due.BAD_GUESTS) {
+            Due.due("sum(" + bad + ")", x.sum(bad), 0);
+        }
     }
 
     private static void sums() {
@@ -165,9 +298,6 @@ public final class AskingCallsTest {
             Due.writeWords(x, p, 1, 20, 300, -4000);
             for (int guest = 0; guest < 3; guest++) {
                 Due.due("words in page " + p + ": sum(" + guest + ")", x.sum(guest), guest == p / 8 ? -3679 : 0);
-            }
-            for (int bad : Due.BAD_GUESTS) {
-                Due.due("words in page " + p + ": sum(" + bad + ")", x.sum(bad), 0);
             }
         }
         PageMerger y = new PageMerger(4);
@@ -219,21 +349,5 @@ public final class AskingCallsTest {
         Due.writeWords(y, 6, 1, 2, 2, 1);
         Due.writeWords(y, 7, Integer.MIN_VALUE, Integer.MIN_VALUE, Integer.MIN_VALUE, Integer.MIN_VALUE);
         Due.due("words in pairs: plain()", y.plain(), 21);
-    }
-
-    private static void askingChangesNothing() {
-        PageMerger x = Due.mixed();
-        List<Integer> before = Due.seen(x);
-        x.same(0, 1);
-        x.same(3, 20);
-        x.same(-1, 24);
-        x.held(-1);
-        x.held(24);
-        x.read(3, 0);
-        x.read(24, 0);
-        x.read(0, 4);
-        x.sum(-1);
-        x.sum(3);
-        Due.due("asking twice", Due.seen(x), before);
     }
 }

@@ -8,15 +8,20 @@ public final class ChangingCallsTest {
         writeAnswersTheWordBefore();
         writeTouchesOneWord();
         writeHoldsAReleasedPage();
-        writeRefuses();
+        writeRefusesABadPage();
+        writeRefusesABadWord();
         fillSetsAllFour();
+        fillHoldsFromThenOn();
         fillRefuses();
         copyTakesWordsAndHeld();
+        copyOfEveryPageToEveryPage();
         copyRefuses();
         swapExchanges();
+        swapOfEveryPair();
         swapRefuses();
         releaseGivesUp();
-        releaseRefuses();
+        releaseRefusesABadPage();
+        releaseTellsReleased();
         scanChangesNothing();
         Due.end();
     }
@@ -67,18 +72,22 @@ public final class ChangingCallsTest {
         }
     }
 
-    private static void writeRefuses() {
+    private static void writeRefusesABadPage() {
         for (int bad : Due.BAD_PAGES) {
             PageMerger x = Due.mixed();
             List<Integer> before = Due.seen(x);
-            String call = "write(" + bad + ", 1, 5)";
-            Due.due(call, x.write(bad, 1, 5), PageMerger.BAD_PAGE);
-            Due.due(call + ": all", Due.seen(x), before);
+            for (int w = 0; w < 4; w++) {
+                Due.due("write(" + bad + ", " + w + ", 5)", x.write(bad, w, 5), PageMerger.BAD_PAGE);
+            }
+            Due.due("write to page " + bad + ": all", Due.seen(x), before);
         }
+    }
+
+    private static void writeRefusesABadWord() {
         for (int bad : Due.BAD_WORDS) {
             PageMerger x = Due.mixed();
             List<Integer> before = Due.seen(x);
-            for (int p : new int[] {0, 3, 10, 20, 23}) {
+            for (int p = 0; p < 24; p++) {
                 Due.due("write(" + p + ", " + bad + ", 5)", x.write(p, bad, 5), PageMerger.BAD_WORD);
             }
             Due.due("write with word " + bad + ": all", Due.seen(x), before);
@@ -95,11 +104,24 @@ public final class ChangingCallsTest {
                 Due.due(call, x.fill(p, value), 0);
                 Due.dueWords(call, x, p, value, value, value, value);
                 Due.dueWords(call + ", the next page", x, next, wordsOfNext);
+            }
+        }
+    }
+
+    private static void fillHoldsFromThenOn() {
+        for (int p = 0; p < 24; p++) {
+            for (int value : VALUES) {
+                PageMerger x = Due.mixed();
+                String call = "fill(" + p + ", " + value + ")";
+                x.fill(p, value);
                 Due.due(call + ": held", x.held(p), true);
-                x.release(p);
+                Due.due(call + ": release", x.release(p), 0);
                 Due.due(call + " on a released page", x.fill(p, value), 0);
-                Due.due(call + " on a released page: held", x.held(p), true);
                 Due.dueWords(call + " on a released page", x, p, value, value, value, value);
+                Due.due(call + " on a released page: held", x.held(p), true);
+                x.write((p + 1) % 24, 0, 1);
+                x.release((p + 1) % 24);
+                Due.due(call + " on a released page, later: held", x.held(p), true);
             }
         }
     }
@@ -142,12 +164,53 @@ public final class ChangingCallsTest {
         Due.due("copy of a page to itself: all", Due.seen(y), before);
     }
 
+    /** In each of the four: both held, the one released, the other released, both released. */
+    private static void copyOfEveryPageToEveryPage() {
+        for (int from = 0; from < 24; from++) {
+            for (int to = 0; to < 24; to++) {
+                for (int released = 0; released < 4; released++) {
+                    PageMerger x = twoReleased(from, to, released);
+                    List<Integer> want = pagesOf(x);
+                    for (int i = 0; i < 5; i++) {
+                        want.set(to * 5 + i, want.get(from * 5 + i));
+                    }
+                    String call = "copy(" + from + ", " + to + "), released " + released;
+                    Due.due(call, x.copy(from, to), 0);
+                    Due.due(call + ": all pages", pagesOf(x), want);
+                    Due.due(call + ": same", x.same(from, to), true);
+                }
+            }
+        }
+    }
+
+    /** All pages different and held, but 'a' if released has the bit 1, and 'b' if it has the bit 2. */
+    private static PageMerger twoReleased(int a, int b, int released) {
+        PageMerger x = new PageMerger(4);
+        for (int p = 0; p < 24; p++) {
+            Due.writeWords(x, p, p + 1, p + 30, -p, p * p);
+        }
+        if ((released & 1) != 0) {
+            x.release(a);
+        }
+        if ((released & 2) != 0) {
+            x.release(b);
+        }
+        return x;
+    }
+
+    /** Five numbers for each page: its words, and 1 if it is held. */
+    private static List<Integer> pagesOf(PageMerger x) {
+        return Due.seen(x).subList(0, 24 * 5);
+    }
+
     private static void copyRefuses() {
         for (int bad : Due.BAD_PAGES) {
             PageMerger x = Due.mixed();
             List<Integer> before = Due.seen(x);
-            Due.due("copy(" + bad + ", 0)", x.copy(bad, 0), PageMerger.BAD_PAGE);
-            Due.due("copy(0, " + bad + ")", x.copy(0, bad), PageMerger.BAD_PAGE);
+            for (int p = 0; p < 24; p++) {
+                Due.due("copy(" + bad + ", " + p + ")", x.copy(bad, p), PageMerger.BAD_PAGE);
+                Due.due("copy(" + p + ", " + bad + ")", x.copy(p, bad), PageMerger.BAD_PAGE);
+            }
             Due.due("copy(" + bad + ", " + bad + ")", x.copy(bad, bad), PageMerger.BAD_PAGE);
             Due.due("copy with " + bad + ": all", Due.seen(x), before);
         }
@@ -183,12 +246,31 @@ public final class ChangingCallsTest {
         Due.due("swaps that exchange nothing: all", Due.seen(z), before);
     }
 
+    private static void swapOfEveryPair() {
+        for (int a = 0; a < 24; a++) {
+            for (int b = 0; b < 24; b++) {
+                for (int released = 0; released < 4; released++) {
+                    PageMerger x = twoReleased(a, b, released);
+                    List<Integer> want = pagesOf(x);
+                    for (int i = 0; i < 5; i++) {
+                        want.set(b * 5 + i, want.set(a * 5 + i, want.get(b * 5 + i)));
+                    }
+                    String call = "swap(" + a + ", " + b + "), released " + released;
+                    Due.due(call, x.swap(a, b), 0);
+                    Due.due(call + ": all pages", pagesOf(x), want);
+                }
+            }
+        }
+    }
+
     private static void swapRefuses() {
         for (int bad : Due.BAD_PAGES) {
             PageMerger x = Due.mixed();
             List<Integer> before = Due.seen(x);
-            Due.due("swap(" + bad + ", 0)", x.swap(bad, 0), PageMerger.BAD_PAGE);
-            Due.due("swap(0, " + bad + ")", x.swap(0, bad), PageMerger.BAD_PAGE);
+            for (int p = 0; p < 24; p++) {
+                Due.due("swap(" + bad + ", " + p + ")", x.swap(bad, p), PageMerger.BAD_PAGE);
+                Due.due("swap(" + p + ", " + bad + ")", x.swap(p, bad), PageMerger.BAD_PAGE);
+            }
             Due.due("swap(" + bad + ", " + bad + ")", x.swap(bad, bad), PageMerger.BAD_PAGE);
             Due.due("swap with " + bad + ": all", Due.seen(x), before);
         }
@@ -212,13 +294,35 @@ public final class ChangingCallsTest {
         }
     }
 
-    private static void releaseRefuses() {
+    private static void releaseRefusesABadPage() {
         for (int bad : Due.BAD_PAGES) {
             PageMerger x = Due.mixed();
             List<Integer> before = Due.seen(x);
             Due.due("release(" + bad + ")", x.release(bad), PageMerger.BAD_PAGE);
-            Due.due("release(3) again", x.release(3), PageMerger.RELEASED);
-            Due.due("releases that are refused: all", Due.seen(x), before);
+            Due.due("release(" + bad + ") again", x.release(bad), PageMerger.BAD_PAGE);
+            Due.due("release(" + bad + "): all", Due.seen(x), before);
+        }
+    }
+
+    /** Released by itself, by a copy, or by a swap; and no longer so when it was written, filled or copied to. */
+    private static void releaseTellsReleased() {
+        for (int p = 0; p < 24; p++) {
+            int other = (p + 7) % 24;
+            PageMerger x = new PageMerger(4);
+            x.release(p);
+            List<Integer> before = Due.seen(x);
+            Due.due("release(" + p + ") again", x.release(p), PageMerger.RELEASED);
+            Due.due("release(" + p + ") again: all", Due.seen(x), before);
+            x.copy(p, other);
+            Due.due("release of a copy of a released page", x.release(other), PageMerger.RELEASED);
+            x.write(p, 0, 0);
+            x.swap(p, other);
+            Due.due("release(" + p + ") after a swap with a released page", x.release(p), PageMerger.RELEASED);
+            Due.due("release(" + other + ") after a swap with a held page", x.release(other), 0);
+            x.fill(p, 0);
+            Due.due("release(" + p + ") after a fill", x.release(p), 0);
+            x.copy((p + 1) % 24, p);
+            Due.due("release(" + p + ") after a copy of a held page to it", x.release(p), 0);
         }
     }
 
