@@ -93,26 +93,34 @@ public final class TermsTest {
     /** What is no write to the page, a refused one too, does not make it held. */
     private static void releasedPagesStaySoUntilWritten() {
         for (int p = 0; p < 24; p++) {
+            int page = p;
             int other = (p + 1) % 24;
-            PageMerger x = allDifferent();
-            x.release(p);
-            x.write(p, 4, 1);
-            x.write(p, -1, 1);
-            x.write(other, 0, 1);
-            x.fill(other, 1);
-            x.copy(p, p);
-            x.swap(p, p);
-            x.copy(p, -1);
-            x.copy(24, p);
-            x.swap(p, 24);
-            x.swap(-1, p);
-            x.release(p);
-            x.scan(24);
-            Due.due("page " + p + " released, not written: held", x.held(p), false);
-            Due.due("page " + p + " released, not written: release", x.release(p), PageMerger.RELEASED);
-            Due.due("page " + p + " released, not written: contents()", x.contents(), 23);
-            Due.dueWords("page " + p + " released, not written", x, p, 0, 0, 0, 0);
+            dueStillReleased(p, "a write to word 4", x -> x.write(page, 4, 1));
+            dueStillReleased(p, "a write to word -1", x -> x.write(page, -1, 1));
+            dueStillReleased(p, "a write to another page", x -> x.write(other, 0, 1));
+            dueStillReleased(p, "a fill of another page", x -> x.fill(other, 1));
+            dueStillReleased(p, "a release of another page", x -> x.release(other));
+            dueStillReleased(p, "a refused release", x -> x.release(page));
+            dueStillReleased(p, "a copy of it", x -> x.copy(page, other));
+            dueStillReleased(p, "a copy to itself", x -> x.copy(page, page));
+            dueStillReleased(p, "a refused copy of it", x -> x.copy(page, -1));
+            dueStillReleased(p, "a refused copy to it", x -> x.copy(24, page));
+            dueStillReleased(p, "a swap with itself", x -> x.swap(page, page));
+            dueStillReleased(p, "a refused swap from it", x -> x.swap(page, 24));
+            dueStillReleased(p, "a refused swap to it", x -> x.swap(-1, page));
+            dueStillReleased(p, "a scan", x -> x.scan(24));
+            dueStillReleased(p, "a read", x -> x.read(page, 0));
         }
+    }
+
+    private static void dueStillReleased(int p, String what, Consumer<PageMerger> action) {
+        PageMerger x = allDifferent();
+        x.release(p);
+        action.accept(x);
+        String when = "page " + p + " released, then " + what;
+        Due.due(when + ": held", x.held(p), false);
+        Due.dueWords(when, x, p, 0, 0, 0, 0);
+        Due.due(when + ": release", x.release(p), PageMerger.RELEASED);
     }
 
     private static void aWriteHoldsAgainWithZerosBeside() {
