@@ -1,8 +1,8 @@
 /**
  * The pages of three guests on one host, as the guests see them: ../shared/DOC.md says what each call does.
  *
- * What the host merges, squeezes or puts aside can never be seen from outside, so every page
- * is kept here as it is, and the host's own doings are left out.
+ * What the host merges, squeezes or puts aside can be seen by no call but duplicates(), and that one is told
+ * by the words of the pages alone. So every page is kept here as it is, and the host's own doings are left out.
  */
 public final class PageMerger {
     public static final int BAD_PAGE = -1;

@@ -1,5 +1,6 @@
 import java.util.ArrayList;
 import java.util.List;
+import java.util.Random;
 import java.util.function.Consumer;
 import java.util.function.Function;
 
@@ -7,6 +8,8 @@ import java.util.function.Function;
 public final class TermsTest {
     public static void main(String[] args) {
         threeGuestsOfEightPagesOfFourWords();
+        answersHoldToThe512thCall();
+        nothingOfTheHostCanBeSeen();
         aPageIsNamedByGuestAndPage();
         releasedWordsAreGivenUp();
         releasedPagesCountForNothing();
@@ -36,6 +39,79 @@ public final class TermsTest {
             Due.due("all words 6: sum(" + guest + ")", x.sum(guest), 6 * 8 * 4);
         }
         Due.due("three guests: sum of a fourth", x.sum(3), 0);
+    }
+
+    /** Each call once as the 512th of its object. */
+    private static void answersHoldToThe512thCall() {
+        Due.due("the 512th: write", after511Calls().write(23, 3, 9), 26);
+        Due.due("the 512th: fill", after511Calls().fill(0, 9), 0);
+        Due.due("the 512th: copy", after511Calls().copy(0, 24), PageMerger.BAD_PAGE);
+        Due.due("the 512th: swap", after511Calls().swap(0, 23), 0);
+        Due.due("the 512th: release", after511Calls().release(5), PageMerger.RELEASED);
+        after511Calls().scan(24);
+        Due.due("the 512th: read", after511Calls().read(22, 1), 23);
+        Due.due("the 512th: read of a bad word", after511Calls().read(22, 4), PageMerger.BAD_WORD);
+        Due.due("the 512th: held", after511Calls().held(22), true);
+        Due.due("the 512th: same", after511Calls().same(5, 6), true);
+        Due.due("the 512th: contents", after511Calls().contents(), 23);
+        Due.due("the 512th: duplicates", after511Calls().duplicates(), 0);
+        Due.due("the 512th: sum", after511Calls().sum(2), 4 * (16 + 17 + 18 + 19 + 20 + 21 + 22 + 23) + 8 * (0 + 1 + 2 + 3));
+        Due.due("the 512th: plain", after511Calls().plain(), 1);
+    }
+
+    /** All words are written five times over; page 5 is released in the end, and page 6 filled with zeros. */
+    private static PageMerger after511Calls() {
+        PageMerger x = new PageMerger(4);
+        int calls = 0;
+        for (int round = 0; round < 5; round++) {
+            for (int p = 0; p < 24; p++) {
+                Due.writeWords(x, p, p + round - 4, p + round - 3, p + round - 2, p + round - 1);
+                calls += 4;
+            }
+        }
+        x.release(5);
+        x.fill(6, 0);
+        calls += 2;
+        while (calls < 511) {
+            Due.due("call " + calls + ": read(23, 0)", x.read(23, 0), 23);
+            calls++;
+        }
+        return x;
+    }
+
+    /**
+     * A host with the fewest frames that scans after every call, beside one with the most that never scans:
+     * both have the same calls else, and must answer them alike. Of the pages many are alike, and they are written
+     * to after that, so that a page kept once for two is seen if a write to the one changes the other.
+     */
+    private static void nothingOfTheHostCanBeSeen() {
+        for (int seed = 0; seed < 200; seed++) {
+            Due.due("seed " + seed + ": all answers", mixedRun(new PageMerger(4), seed, true),
+                mixedRun(new PageMerger(16), seed, false));
+        }
+    }
+
+    /** 100 changing calls with a scan behind each if the host scans, then all that can be seen: 326 calls at most. */
+    private static List<Integer> mixedRun(PageMerger x, int seed, boolean hostScans) {
+        Random random = new Random(seed);
+        List<Integer> all = new ArrayList<>();
+        for (int i = 0; i < 100; i++) {
+            int p = random.nextInt(24);
+            int q = random.nextInt(24);
+            int value = random.nextInt(3);
+            switch (random.nextInt(5)) {
+                case 0 -> all.add(x.write(p, random.nextInt(4), value));
+                case 1 -> all.add(x.fill(p, value));
+                case 2 -> all.add(x.copy(p, q));
+                case 3 -> all.add(x.swap(p, q));
+                default -> all.add(x.release(p));
+            }
+            if (hostScans) {
+                x.scan(24);
+            }
+        }
+        all.addAll(Due.seen(x));
+        return all;
     }
 
     private static void aPageIsNamedByGuestAndPage() {
